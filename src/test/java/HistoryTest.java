@@ -8,7 +8,9 @@ public final class HistoryTest {
         undo();
         undoOfEachAct();
         undoLeavesWhatIsNoState();
+        undoOfZerosAndGains();
         keepAndRestore();
+        restoreBringsBackAnotherRosette();
         restoreIsAnAct();
         DUE.end();
     }
@@ -93,6 +95,47 @@ public final class HistoryTest {
         DUE.is("15: nothing is there", x.rosette(0, 4), UNKNOWN);
         DUE.is("15: the history is empty", x.count(10), 0);
         DUE.is("15: but the snapshot is there", x.restore(), 1);
+    }
+
+    private static void undoOfZerosAndGains() {
+        RosetteGantry x = new RosetteGantry();
+        x.addRosette(10, false, 350, 200);
+        x.setLeads(0, 10000);
+        x.setStrain(0, 100, 200, 300);
+        x.request(1, 0, 5);
+        x.request(2, 0, 5);
+        DUE.is("15: balance and check", x.workOff(), 2);
+        int[] zeros = {194, 583, 388};
+        for (int gauge = 0; gauge < 3; gauge++) {
+            DUE.is("15: zero", x.gauge(0, gauge, 4), zeros[gauge]);
+            DUE.is("15: gain", x.gauge(0, gauge, 5), 1028);
+        }
+        String after = Due.whole(x);
+        x.keep();
+        x.undo();
+        for (int gauge = 0; gauge < 3; gauge++) {
+            DUE.is("15: zero as before", x.gauge(0, gauge, 4), 0);
+            DUE.is("15: gain as before", x.gauge(0, gauge, 5), 1000);
+        }
+        x.restore();
+        DUE.holds("17: zeros and gains come back", Due.whole(x).equals(after));
+    }
+
+    private static void restoreBringsBackAnotherRosette() {
+        RosetteGantry x = new RosetteGantry();
+        x.addRosette(10, false, 350, 200);
+        x.setOffset(0, 0, 5);
+        x.keep();
+        String kept = Due.whole(x);
+        x.undo();
+        x.undo();
+        x.addRosette(990, true, 120, 240);
+        x.setStrain(0, 1, 2, 3);
+        String other = Due.whole(x);
+        x.restore();
+        DUE.holds("17: the rosette of the snapshot", Due.whole(x).equals(kept));
+        x.undo();
+        DUE.holds("15: the other one", Due.whole(x).equals(other));
     }
 
     private static void keepAndRestore() {

@@ -15,9 +15,11 @@ public final class JobsTest {
         cancel();
         nextOrder();
         nextWay();
+        nextIsNearerByOne();
         read();
         balance();
         balanceLimits();
+        balanceLimitOfEachGauge();
         check();
         checkRefused();
         refusedJobChangesNothingElse();
@@ -140,6 +142,20 @@ public final class JobsTest {
         DUE.is("10: it is not done", x.count(3), 3);
     }
 
+    private static void nextIsNearerByOne() {
+        RosetteGantry x = new RosetteGantry();
+        x.addRosette(500, false, 350, 200);
+        x.addRosette(401, false, 350, 200);
+        x.addRosette(600, false, 350, 200);
+        x.request(READ, 0, 5);
+        x.next();
+        x.request(READ, 2, 5);
+        x.request(READ, 1, 5);
+        DUE.is("10: 99 is nearer than 100", x.next(), 2);
+        x.request(READ, 0, 5);
+        DUE.is("10: 99 is nearer than 199", x.next(), 3);
+    }
+
     private static void read() {
         RosetteGantry x = three();
         x.setStrain(0, 1000, -200, 600);
@@ -231,6 +247,22 @@ public final class JobsTest {
         x.next();
         DUE.is("10: the shunt is asked first", x.record(0, 3), 4);
         DUE.is("10: refused ones", x.count(4), 3);
+    }
+
+    private static void balanceLimitOfEachGauge() {
+        for (int gauge = 0; gauge < 3; gauge++) {
+            RosetteGantry x = three();
+            x.setStrain(0, 3000, 3000, 0);
+            x.setOffset(0, gauge, 9001);
+            x.request(BALANCE, 0, 5);
+            x.next();
+            DUE.is("10: 15001 of gauge " + gauge, x.record(0, 3), 3);
+            DUE.is("10: no zero changes", x.gauge(0, 0, 4) | x.gauge(0, 1, 4) | x.gauge(0, 2, 4), 0);
+            x.setOffset(0, gauge, 9000);
+            x.request(BALANCE, 0, 5);
+            x.next();
+            DUE.is("10: 15000 of gauge " + gauge, x.record(0, 2), 3);
+        }
     }
 
     private static void check() {

@@ -250,10 +250,42 @@ public final class TellingTest {
             long want = (10000L * cosine(k) + 5000L * sine(k)) / 20000;
             DUE.is("21: pull(0, " + k + ")", x.pull(0, k), want);
         }
+        pullOfGreatStrains();
         DUE.is("21: -1", x.pull(0, -1), BAD_VALUE);
         DUE.is("21: 24", x.pull(0, 24), BAD_VALUE);
         DUE.is("21: rosette 1", x.pull(1, 0), UNKNOWN);
         DUE.is("21: rosette -1", x.pull(-1, -1), UNKNOWN);
+    }
+
+    /** With x - y and g beyond 20000, each number of the table of directions counts to the last digit. */
+    private static void pullOfGreatStrains() {
+        RosetteGantry x = new RosetteGantry();
+        x.addRosette(100, false, 350, 180);
+        x.setStrain(0, 5000, -5000, 5000);
+        x.setOffset(0, 0, 9999);
+        x.setOffset(0, 1, 9999);
+        x.setOffset(0, 2, -9999);
+        DUE.is("20: x", x.principal(0, 4), 10555);
+        DUE.is("20: y", x.principal(0, 5), -10555);
+        DUE.is("20: g", x.principal(0, 6), 16110);
+        for (int k = 0; k < 24; k++) {
+            DUE.is("21: pull(0, " + k + ")", x.pull(0, k), (21110L * cosine(k) + 16110L * sine(k)) / 20000);
+        }
+        // The direction 2 has 21110 * 8660 + 16110 * 5000, and the direction 3 has 37220 * 7071.
+        DUE.is("20: the direction", x.principal(0, 2), 2);
+        DUE.is("20: the radius", x.principal(0, 3), 13168);
+        x.setOffset(0, 0, -9999);
+        x.setStrain(0, -5000, -5000, 5000);
+        DUE.is("20: g", x.principal(0, 6), 27220);
+        for (int k = 0; k < 24; k++) {
+            DUE.is("21: pull(0, " + k + ")", x.pull(0, k), 27220L * sine(k) / 20000);
+        }
+        x.addRosette(200, true, 350, 180);
+        x.setOffset(1, 1, 9999);
+        x.setStrain(1, 0, 0, 5000);
+        DUE.is("20: b", x.gauge(1, 1, 6), 7720);
+        DUE.is("20: c", x.gauge(1, 2, 6), -2165);
+        DUE.is("20: g of delta", x.principal(1, 6), 9885 * 11547 / 10000);
     }
 
     private static void job() {
@@ -326,6 +358,7 @@ public final class TellingTest {
         DUE.is("24: -1", x.neighbour(-1, true), BAD_VALUE);
         DUE.is("24: 1001", x.neighbour(1001, false), BAD_VALUE);
         x.addRosette(1000, false, 350, 200);
+        DUE.is("24: from end to end", x.neighbour(0, true), 0);
         x.addRosette(0, false, 350, 200);
         x.addRosette(300, false, 350, 200);
         x.addRosette(301, false, 350, 200);
