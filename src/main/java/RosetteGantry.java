@@ -767,12 +767,14 @@ public final class RosetteGantry {
             if (used >= MOST_STATES) {
                 dropOldest();
             }
-            states[used].copyFrom(state);
-            used++;
+            if (used >= 0 && used < states.length) {
+                states[used].copyFrom(state);
+                used++;
+            }
         }
 
         State takeLatest() {
-            if (used <= 0) {
+            if (used <= 0 || used > states.length) {
                 return null;
             }
             used--;
